@@ -65,7 +65,7 @@ public final class Ferrytax {
         for (int kind = 0; kind < KINDS; kind++) {
             rates[kind] = FIRST_RATE;
         }
-        // All rows are made here, so that none of them is ever null and no later call makes objects.
+        // All rows are made here, so that none of them is ever null and later calls only use them again.
         for (int row = 0; row < RECEIPT_LIMIT; row++) {
             receipts[row] = new Receipt();
         }

@@ -14,6 +14,8 @@ public final class FerriesTest {
         pass();
         sailing();
         ofTraveller();
+        longAfterTheSailing();
+        numbersFarOff();
         due.end();
     }
 
@@ -275,6 +277,42 @@ public final class FerriesTest {
         due.noSuch("traveller 10, wrong what", Ferrytax::new, y -> y.ofTraveller(10, 4));
         due.outOfRange("what -1", Ferrytax::new, y -> y.ofTraveller(0, -1));
         due.outOfRange("what 4", Ferrytax::new, y -> y.ofTraveller(0, 4));
+    }
+
+    private static void longAfterTheSailing() {
+        Supplier<Ferrytax> late = () -> {
+            Ferrytax y = sixLeftAtTen();
+            y.buy(0, 7, 0, 100);
+            y.seat(7, 1);
+            y.pass(50);
+            return y;
+        };
+        due.notNow("seat long after", late, y -> y.seat(8, 0));
+        due.notNow("leaveSeat long after", late, y -> y.leaveSeat(7, 1));
+        due.notNow("aboard long after", late, y -> y.aboard(7, 1));
+        due.notNow("stamp long after", late, y -> y.stamp(2, 1));
+    }
+
+    private static void numbersFarOff() {
+        int[] numbers = {12, 21, Integer.MAX_VALUE, -2, Integer.MIN_VALUE};
+        for (int n : numbers) {
+            due.noSuch("seat of traveller " + n, FerriesTest::sixLeftAtTen, y -> y.seat(n, 1));
+            due.noSuch("seat on ferry " + n, FerriesTest::sixLeftAtTen, y -> y.seat(0, n));
+            due.noSuch("leaveSeat of traveller " + n, FerriesTest::sixLeftAtTen, y -> y.leaveSeat(n, 1));
+            due.noSuch("leaveSeat on ferry " + n, FerriesTest::sixLeftAtTen, y -> y.leaveSeat(0, n));
+            due.noSuch("aboard of traveller " + n, FerriesTest::sixLeftAtTen, y -> y.aboard(n, 1));
+            due.noSuch("aboard of ferry " + n, FerriesTest::sixLeftAtTen, y -> y.aboard(0, n));
+            due.noSuch("stamp for ferry " + n, FerriesTest::sixLeftAtTen, y -> y.stamp(0, n));
+            due.noSuch("comeBack of traveller " + n, FerriesTest::sixLeftAtTen, y -> y.comeBack(n));
+            due.noSuch("ofTraveller " + n, FerriesTest::sixLeftAtTen, y -> y.ofTraveller(n, 0));
+            due.outOfRange("what " + n, FerriesTest::sixLeftAtTen, y -> y.ofTraveller(0, n));
+            due.noSuch("refundsAnew of traveller " + n, FerriesTest::sixLeftAtTen, y -> y.refundsAnew(n));
+            due.outOfRange("a ferry with seats " + n, FerriesTest::sixLeftAtTen, y -> y.ferry(20, n));
+        }
+        due.outOfRange("a ferry at the highest int", Ferrytax::new, y -> y.ferry(Integer.MAX_VALUE, 1));
+        due.outOfRange("a ferry at the lowest int", Ferrytax::new, y -> y.ferry(Integer.MIN_VALUE, 1));
+        due.outOfRange("the highest int to pass", Ferrytax::new, y -> y.pass(Integer.MAX_VALUE));
+        due.outOfRange("the lowest int to pass", Ferrytax::new, y -> y.pass(Integer.MIN_VALUE));
     }
 
     private static Ferrytax atTen() {

@@ -17,6 +17,7 @@ public final class ReceiptsTest {
         ofReceipt();
         code();
         debt();
+        numbersFarOff();
         due.end();
     }
 
@@ -233,6 +234,23 @@ public final class ReceiptsTest {
         due.is("debt with a PAID one", paid.debt(3), 30);
         due.noSuch("debt of shop -1", Ferrytax::new, y -> y.debt(-1));
         due.noSuch("debt of shop 5", Ferrytax::new, y -> y.debt(5));
+    }
+
+    private static void numbersFarOff() {
+        int[] numbers = {11, 61, Integer.MAX_VALUE, -2, Integer.MIN_VALUE};
+        for (int n : numbers) {
+            due.noSuch("rate of kind " + n, Ferrytax::new, y -> y.rate(n, 5));
+            due.noSuch("buy in shop " + n, Ferrytax::new, y -> y.buy(n, 0, 0, 1));
+            due.noSuch("buy by traveller " + n, Ferrytax::new, y -> y.buy(0, n, 0, 1));
+            due.noSuch("buy of kind " + n, Ferrytax::new, y -> y.buy(0, 0, n, 1));
+            int price = n < 0 ? n : Math.max(n, 20000);
+            due.outOfRange("buy for " + price, Ferrytax::new, y -> y.buy(0, 0, 0, price));
+            due.noSuch("giveBack of receipt " + n, ReceiptsTest::stampedByTwo, y -> y.giveBack(n));
+            due.noSuch("ofReceipt " + n, ReceiptsTest::stampedByTwo, y -> y.ofReceipt(n, 0));
+            due.outOfRange("what " + n, ReceiptsTest::stampedByTwo, y -> y.ofReceipt(0, n));
+            due.noSuch("code of receipt " + n, ReceiptsTest::stampedByTwo, y -> y.code(n, 0));
+            due.noSuch("debt of shop " + n, Ferrytax::new, y -> y.debt(n));
+        }
     }
 
     /** Traveller 0 bought receipt 0 for 100 and has left with ferry 0 at hour 1. */
