@@ -1,10 +1,15 @@
+import java.util.function.BiConsumer;
 import java.util.function.Consumer;
+import java.util.function.IntFunction;
 import java.util.function.Supplier;
 
 /** What the tests share: answers compared with those that are due, and calls that must be refused. */
 final class Due {
-    private static final int RECEIPTS_PROBED = 4;
-    private static final int FERRIES_PROBED = 3;
+    /** A call with one number left open. */
+    interface NumberedCall {
+        int answer(Ferrytax x, int number);
+    }
+
     private int wrong = 0;
 
     void is(String what, long got, long want) {
@@ -25,20 +30,30 @@ final class Due {
 
     /** The call must throw just this exception and leave the object as one is for which it was never made. */
     void refused(String what, Class<? extends RuntimeException> kind, Supplier<Ferrytax> scene, Consumer<Ferrytax> call) {
-        Ferrytax touched = scene.get();
+        for (BiConsumer<Ferrytax, Probes.Answers> probe : Probes.ALL) {
+            Ferrytax touched = scene.get();
+            if (!throwsJust(what, kind, touched, call)) {
+                return;
+            }
+            String got = Probes.answers(probe, touched);
+            String want = Probes.answers(probe, scene.get());
+            if (!got.equals(want)) {
+                report(what + " changed something: " + got + " instead of " + want);
+            }
+        }
+    }
+
+    private boolean throwsJust(String what, Class<? extends RuntimeException> kind, Ferrytax x, Consumer<Ferrytax> call) {
         try {
-            call.accept(touched);
+            call.accept(x);
             report(what + " threw nothing, due is " + kind.getName());
-            return;
+            return false;
         } catch (RuntimeException e) {
             if (e.getClass() != kind) {
                 report(what + " threw " + e.getClass().getName() + ", due is " + kind.getName());
+                return false;
             }
-        }
-        String got = allAnswers(touched);
-        String want = allAnswers(scene.get());
-        if (!got.equals(want)) {
-            report(what + " changed something: " + got + " instead of " + want);
+            return true;
         }
     }
 
@@ -54,6 +69,52 @@ final class Due {
         refused(what, IllegalStateException.class, scene, call);
     }
 
+    /** Each number from low to high is taken; the next ones on both sides and those farthest off are refused. */
+    void range(String what, Class<? extends RuntimeException> kind, Supplier<Ferrytax> scene, int low, int high,
+            NumberedCall call) {
+        taken(what, low, () -> call.answer(scene.get(), low));
+        taken(what, high, () -> call.answer(scene.get(), high));
+        for (int number : new int[] {low - 1, high + 1, Integer.MIN_VALUE, Integer.MAX_VALUE}) {
+            refused(what + " " + number, kind, scene, x -> call.answer(x, number));
+        }
+    }
+
+    void numbers(String what, Supplier<Ferrytax> scene, int count, NumberedCall call) {
+        range(what, IndexOutOfBoundsException.class, scene, 0, count - 1, call);
+    }
+
+    void values(String what, Supplier<Ferrytax> scene, int low, int high, NumberedCall call) {
+        range(what, IllegalArgumentException.class, scene, low, high, call);
+    }
+
+    /** At this hour the call is taken, an hour ahead of it refused. */
+    void from(String what, int first, IntFunction<Ferrytax> at, Consumer<Ferrytax> call) {
+        taken(what + ", hour", first, () -> call.accept(at.apply(first)));
+        notNow(what + ", hour " + (first - 1), () -> at.apply(first - 1), call);
+    }
+
+    /** At this hour the call is taken, an hour behind it refused. */
+    void until(String what, int last, IntFunction<Ferrytax> at, Consumer<Ferrytax> call) {
+        taken(what + ", hour", last, () -> call.accept(at.apply(last)));
+        notNow(what + ", hour " + (last + 1), () -> at.apply(last + 1), call);
+    }
+
+    private void taken(String what, int number, Runnable call) {
+        try {
+            call.run();
+        } catch (RuntimeException e) {
+            report(what + " " + number + " threw " + e.getClass().getName() + ", due is an answer");
+        }
+    }
+
+    /** Lets any number of hours go by, a hundred at a time. */
+    static Ferrytax after(Ferrytax x, int hours) {
+        for (int left = hours; left > 0; left -= 100) {
+            x.pass(Math.min(left, 100));
+        }
+        return x;
+    }
+
     void end() {
         System.out.println(wrong == 0 ? "all answers are as due" : wrong + " answers are not as due");
         if (wrong != 0) {
@@ -64,67 +125,5 @@ final class Due {
     void report(String text) {
         wrong++;
         System.out.println(text);
-    }
-
-    // The askers first; then calls that change the object, since only they show its seats, rates and hour.
-    private static String allAnswers(Ferrytax x) {
-        StringBuilder all = new StringBuilder();
-        askEverything(x, all);
-        for (int kind = 0; kind < 4; kind++) {
-            int k = kind;
-            answer(all, () -> x.rate(k, 7));
-        }
-        for (int ferry = 0; ferry < FERRIES_PROBED; ferry++) {
-            actAllOn(x, ferry, all);
-        }
-        answer(all, () -> x.buy(0, 9, 0, 100));
-        answer(all, () -> x.ferry(10000, 1));
-        answer(all, () -> x.pass(1));
-        for (int receipt = 0; receipt < RECEIPTS_PROBED; receipt++) {
-            int r = receipt;
-            answer(all, () -> x.check(r, true));
-            answer(all, () -> x.giveBack(r));
-        }
-        for (int traveller = 0; traveller < 10; traveller++) {
-            int t = traveller;
-            answer(all, () -> x.comeBack(t));
-        }
-        askEverything(x, all);
-        return all.toString();
-    }
-
-    private static void actAllOn(Ferrytax x, int ferry, StringBuilder all) {
-        for (int traveller = 0; traveller < 10; traveller++) {
-            int t = traveller;
-            answer(all, () -> x.aboard(t, ferry));
-            answer(all, () -> x.leaveSeat(t, ferry));
-            answer(all, () -> x.seat(t, ferry));
-        }
-    }
-
-    private static void askEverything(Ferrytax x, StringBuilder all) {
-        for (int number = 0; number < 10; number++) {
-            int n = number;
-            for (int what = 0; what < 4; what++) {
-                int w = what;
-                answer(all, () -> x.ofTraveller(n, w));
-                if (n < RECEIPTS_PROBED) {
-                    answer(all, () -> x.ofReceipt(n, w));
-                }
-            }
-            answer(all, () -> x.refundsAnew(n));
-            if (n < 5) {
-                answer(all, () -> x.debt(n));
-            }
-        }
-    }
-
-    private static void answer(StringBuilder all, Supplier<Integer> call) {
-        try {
-            all.append(call.get());
-        } catch (RuntimeException e) {
-            all.append(e.getClass().getSimpleName());
-        }
-        all.append(' ');
     }
 }
