@@ -9,11 +9,12 @@ import java.util.function.IntSupplier;
 final class Probes {
     static final List<BiConsumer<Ferrytax, Answers>> ALL = List.of(
         Probes::askOfAllReceipts, Probes::askOfAllTravellers, Probes::takeSeats, Probes::leaveSeats, Probes::goAboard,
-        Probes::stampAll, Probes::checkAll, Probes::giveAllBack, Probes::comeBackAndBuy, Probes::setRatesAndBuy,
-        Probes::planAndPass, Probes::passByHours, Probes::wasteStampsTwice, Probes::giveBackLate);
+        Probes::stampAll, Probes::checkAll, Probes::giveAllBack, Probes::comeBackAndBuy, Probes::leaveOnceMore,
+        Probes::setRatesAndBuy, Probes::planAndPass, Probes::passByHours, Probes::wasteStampsTwice,
+        Probes::giveBackLate);
 
     private static final int TRAVELLERS = 10;
-    private static final int RECEIPTS = 6;
+    private static final int RECEIPTS = 8;
     private static final int FERRIES = 4;
     private static final int HOURS = 24;
 
@@ -143,7 +144,6 @@ final class Probes {
             int t = traveller;
             answers.add(() -> x.buy(0, t, 0, 100));
         }
-        leaveOnceMore(x, answers);
     }
 
     private static void comeBackAll(Ferrytax x, Answers answers) {
@@ -155,20 +155,14 @@ final class Probes {
 
     // How often one on the island has left is told only when they have left again.
     private static void leaveOnceMore(Ferrytax x, Answers answers) {
-        int ferry = boardAll(x, answers);
-        answers.add(() -> x.pass(1));
-        answers.add(() -> ferry);
-        comeBackAll(x, answers);
-    }
-
-    private static int boardAll(Ferrytax x, Answers answers) {
         int ferry = ferryOfNextHour(x);
         for (int traveller = 0; traveller < TRAVELLERS; traveller++) {
             int t = traveller;
             answers.add(() -> x.seat(t, ferry));
             answers.add(() -> x.aboard(t, ferry));
         }
-        return ferry;
+        answers.add(() -> x.pass(1));
+        comeBackAll(x, answers);
     }
 
     /** The ferry's number, or NONE if there are too many or the hours are at their end. */
@@ -203,11 +197,13 @@ final class Probes {
                 answers.add(() -> x.ofTraveller(t, 2));
             }
         }
-        askOfAllTravellers(x, answers);
+        askOfReceipts(x, answers, RECEIPTS);
     }
 
+    // A receipt bought only now shows whether a refused purchase left anything behind.
     private static void wasteStampsTwice(Ferrytax x, Answers answers) {
         comeBackAll(x, answers);
+        answers.add(() -> x.buy(3, 9, 0, 100));
         for (int time = 0; time < 2; time++) {
             int ferry = ferryOfNextHour(x);
             for (int traveller = 0; traveller < TRAVELLERS; traveller++) {
