@@ -7,6 +7,7 @@ public final class FerryBoundariesTest {
     private static final int[] SAILINGS = {1, 2, 3, 4, 12, 13, 101, 10000};
 
     public static void main(String[] args) {
+        noFerriesAtFirst();
         hoursOfAFerry();
         seatsOfAFerry();
         atMostTwentyFerries();
@@ -28,6 +29,23 @@ public final class FerryBoundariesTest {
         whatOfATraveller();
         lastTravellerOnTheLastFerry();
         due.end();
+    }
+
+    // "No receipts, no ferries; all travellers are on the island."
+    private static void noFerriesAtFirst() {
+        due.noSuch("ferry 0 of a new object, seat", Ferrytax::new, y -> y.seat(0, 0));
+        due.noSuch("ferry 0 of a new object, leaveSeat", Ferrytax::new, y -> y.leaveSeat(0, 0));
+        due.noSuch("ferry 0 of a new object, aboard", Ferrytax::new, y -> y.aboard(0, 0));
+        due.noSuch("ferry 0 of a new object, stamp", () -> {
+            Ferrytax y = new Ferrytax();
+            y.buy(0, 0, 0, 100);
+            return y;
+        }, y -> y.stamp(0, 0));
+        for (int traveller = 0; traveller < 10; traveller++) {
+            Ferrytax x = twoFerries();
+            due.is("a seat at once", x.seat(traveller, 0), 9);
+            due.is("aboard at once", x.aboard(traveller, 0), 1);
+        }
     }
 
     // "hour: the hour behind that of now, to 10000"

@@ -1,3 +1,4 @@
+import java.util.function.BiConsumer;
 import java.util.function.Supplier;
 
 /** Promises 1 to 4, 13, 14 and 17: a new object, rates, receipts, their codes and the debts of shops. */
@@ -7,6 +8,7 @@ public final class ReceiptsTest {
     public static void main(String[] args) {
         constants();
         newObject();
+        newObjectBesideAnother();
         rate();
         buy();
         buyOfOneWhoLeft();
@@ -46,6 +48,24 @@ public final class ReceiptsTest {
         due.is("the first hour", x.pass(1), 1);
         due.noSuch("a receipt of a new object", Ferrytax::new, y -> y.ofReceipt(0, 0));
         due.noSuch("a ferry of a new object", Ferrytax::new, y -> y.seat(0, 0));
+    }
+
+    private static void newObjectBesideAnother() {
+        for (BiConsumer<Ferrytax, Probes.Answers> probe : Probes.ALL) {
+            Ferrytax used = stampedByTwo();
+            Ferrytax made = new Ferrytax();
+            used.rate(0, 50);
+            used.pass(1);
+            used.check(0, false);
+            if (!Probes.answers(probe, made).equals(Probes.answers(probe, new Ferrytax()))) {
+                due.report("an object made beside another is not new");
+            }
+            due.is("the other's rate", used.rate(0, 50), 50);
+            due.is("the other's receipt", used.ofReceipt(0, 0), Ferrytax.VOID);
+            due.is("the other's fine", used.ofTraveller(2, 1), 50);
+            due.is("the other's seat", used.leaveSeat(2, 1), 0);
+            due.is("the other's hour", used.pass(1), 2);
+        }
     }
 
     private static void rate() {

@@ -13,6 +13,7 @@ public final class StampBoundariesTest {
         stampInTheTwelveHoursAhead();
         stampAtHourZero();
         checkOnlyIfStamped();
+        checkOfOneWhoLeft();
         fineOfFiftyEach();
         paidIfLeftWithIt();
         tenthRoundedUp();
@@ -143,6 +144,19 @@ public final class StampBoundariesTest {
             y.stamp(0, 0);
             return Due.after(y, hour - 4);
         }, y -> y.check(0, true));
+    }
+
+    // "Throws IllegalStateException if it is not STAMPED", and for nothing else, also when its traveller has left
+    private static void checkOfOneWhoLeft() {
+        Ferrytax x = threeOpen();
+        x.stamp(0, 1);
+        x.stamp(1, 1);
+        x.aboard(0, 0);
+        x.pass(1);
+        due.is("has left", x.ofTraveller(0, 3), 1);
+        due.is("goods there, its traveller has left", x.check(0, true), Ferrytax.STAMPED);
+        due.is("goods not there, its traveller has left", x.check(1, false), Ferrytax.VOID);
+        due.is("the fine of one who has left", x.ofTraveller(0, 1), 50);
     }
 
     // "if not, it is VOID, and the traveller owes a fine of 50"
